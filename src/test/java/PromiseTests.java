@@ -193,6 +193,14 @@ public final class PromiseTests {
         }
         fault(eight, NONE);
         fault(eight + "k0,1,0,1,0;", eight.length());
+        fault("l0;".repeat(100), NONE);
+        fault("l0;".repeat(99) + "l3;", 297);
+        fault("l0;".repeat(98) + "p1;p01", 297);
+        TiedToTown x = new TiedToTown();
+        put(x, "p1;");
+        x.wipe();
+        put(x, "p1");
+        due("nothing of a wiped text counts", x.fault(), 0);
     }
 
     private static void lay() {
@@ -233,6 +241,15 @@ public final class PromiseTests {
         due("lay() once more", x.lay(), 1);
         due("the law without l", x.count(8), 0);
         due("all TIED again", x.count(2), 1);
+        x.wipe();
+        put(x, "p0;p0;k0,1,0,7,1;k0,1,0,7,1;");
+        x.lay();
+        due("who lived lives no more", x.person(0, 0), 0);
+        x.wipe();
+        put(x, "p0;p0;k0,1,0,7,1;");
+        x.lay();
+        due("nothing else is TIED", x.person(0, 1), 1);
+        due("nothing else is there", x.orders(), 1);
     }
 
     private static void knot() {
@@ -653,6 +670,14 @@ public final class PromiseTests {
         due("with none", x.alike(), 0);
         rope(x, 1, 0, 2, 3, 1);
         due("with none, LOOSENED", x.alike(), 2);
+        rope(x, 0, 0, 2, 4, 6, 5, 3, 1);
+        rope(x, 1, 6);
+        due("three pairs of ends taken out", x.alike(), 1);
+        rope(x, 0, 0, 2, 4, 2, 4, 3, 1);
+        rope(x, 1, 4, 4, 2);
+        due("two pairs of ends taken out, turned", x.alike(), 1);
+        rope(x, 1, 4, 4, 3);
+        due("with one over for under", x.alike(), 0);
     }
 
     private static void mark() {
@@ -667,6 +692,11 @@ public final class PromiseTests {
         due("mark(0, -1)", x.mark(0, -1), BAD);
         due("mark(2, 0)", x.mark(2, 0), BAD);
         due("mark(-1, 0)", x.mark(-1, 0), BAD);
+        for (int c = 0; c < 8; c++) {
+            rope(x, 0, c);
+            due("mark of " + c, x.mark(0, c / 2), c % 2 == 0 ? 101 : 99);
+            due("mark of another", x.mark(0, (c / 2 + 1) % 4), 100);
+        }
         x.smooth(0);
         for (int i = 0; i < 16; i++) {
             x.cross(0, 7);
