@@ -676,8 +676,8 @@ public final class TiedToTown {
 
         /** Whether k MAY be undone, were these TIED, this the day and these alive. */
         boolean mayBe(int k, int tiedThen, int today, int living) {
-            return isKnot(k) && has(tiedThen, k) && inTheWay(k, tiedThen) == 0
-                && isLawful(people[k], living) && (kind[k] != TIGHT || due[k] <= today);
+            return isKnot(k) && has(tiedThen, k) && isLawful(people[k], living)
+                && (kind[k] != TIGHT || due[k] <= today) && inTheWay(k, tiedThen) == 0;
         }
 
         private boolean isLawful(int both, int living) {
@@ -708,7 +708,7 @@ public final class TiedToTown {
             int before = 0;
             for (int round = 0; round < MOST_KNOTS && left != before; round++) {
                 before = left;
-                for (int k = 0; k < MOST_KNOTS; k++) {
+                for (int k = MOST_KNOTS - 1; k >= 0; k--) {
                     if (town.mayBe(k, left, today, living)) {
                         left &= ~bit(k);
                     }
