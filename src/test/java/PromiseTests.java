@@ -1,54 +1,5 @@
 // For each promise of ../shared/DOC.md: ordinary inputs, the edges that it names, wrong inputs.
-public final class PromiseTests {
-    private static final int BAD = TiedToTown.BAD, NO = TiedToTown.NO, FULL = TiedToTown.FULL, NONE = TiedToTown.NONE;
-    private static final int MIN = Integer.MIN_VALUE, MAX = Integer.MAX_VALUE;
-
-    private static int wrong = 0;
-    private static int asked = 0;
-
-    private static void due(String call, int got, int want) {
-        asked++;
-        if (got != want) {
-            wrong++;
-            System.out.println(call + " answered " + got + ", due is " + want);
-        }
-    }
-
-    /** Writes a text in pieces of eight bytes. */
-    private static void put(TiedToTown x, String text) {
-        for (int from = 0; from < text.length(); from += 8) {
-            int to = Math.min(text.length(), from + 8);
-            long v = 0;
-            for (int i = from; i < to; i++) {
-                v = v << 8 | text.charAt(i);
-            }
-            x.write(to - from, v);
-        }
-    }
-
-    private static TiedToTown laid(String text) {
-        TiedToTown x = new TiedToTown();
-        put(x, text);
-        if (x.lay() < 1) {
-            wrong++;
-            System.out.println("could not lay " + text);
-        }
-        return x;
-    }
-
-    private static void fault(String text, int want) {
-        TiedToTown x = new TiedToTown();
-        put(x, text);
-        due("fault() of " + text, x.fault(), want);
-    }
-
-    private static void rope(TiedToTown x, int rope, int... crossings) {
-        x.smooth(rope);
-        for (int c : crossings) {
-            x.cross(rope, c);
-        }
-    }
-
+public final class PromiseTests extends Answers {
     public static void main(String[] args) {
         constantsAndNew();
         write();
@@ -79,10 +30,7 @@ public final class PromiseTests {
         year();
         keepAndBack();
         count();
-        System.out.println(asked + " answers asked, " + wrong + " wrong");
-        if (wrong != 0) {
-            System.exit(1);
-        }
+        end();
     }
 
     private static void constantsAndNew() {
