@@ -363,6 +363,9 @@ public final class KnotsBoundaries extends Answers {
             }
             due("takeBack() of a ninth", y.takeBack(), NO);
         }
+        for (int more = 0; more <= 9; more++) {
+            eachAsItWas(more);
+        }
         TiedToTown z = new TiedToTown();
         for (int i = 0; i < 8; i++) {
             z.days(1);
@@ -373,6 +376,35 @@ public final class KnotsBoundaries extends Answers {
         due("one more behind two TAKEN BACK", z.count(5), 7);
         due("it is the latest then", z.takeBack(), 6);
         due("the day", z.count(3), 6);
+    }
+
+    /** Of all kinds of doing one behind the other, then so many days: each of the last eight is TAKEN BACK. */
+    private static void eachAsItWas(int more) {
+        TiedToTown x = laid("p1;p1;" + knot(0, 1, 0, 0, 1) + knot(0, 1, 1, 0, 1) + knot(0, 1, 0, 0, 0) + knot(0, 1, 4, 0, 0));
+        int[] knots = {4, 4, 4, 5, 5, 6, 6, 6, 6, 6, 6, 6, 6, 6, 6, 6, 6, 6};
+        int[] tied = {15, 7, 3, 19, 16, 48, 32, 0, 0, 0, 0, 0, 0, 0, 0, 0, 0, 0};
+        x.undo(3);
+        x.undo(2);
+        x.tie(1, 0, 0, 9, 1);
+        x.pull(0);
+        x.tie(1, 0, 16, 9, 1);
+        due("undo(4), under one", x.undo(4), NO);
+        x.takeBack();
+        x.tie(1, 0, 0, 9, 1);
+        x.cut(4);
+        x.cut(5);
+        for (int i = 0; i < more; i++) {
+            x.days(1);
+        }
+        for (int state = 6 + more; state >= Math.max(0, more - 1); state--) {
+            due("takeBack(), " + more + " days behind", x.takeBack(), state - Math.max(0, more - 1));
+            due("count(1) as it was", x.count(1), knots[state]);
+            due("count(3) as it was", x.count(3), Math.max(0, state - 7));
+            for (int k = 0; k < 6; k++) {
+                due("knot(" + k + ", 5) as it was", x.knot(k, 5), k >= knots[state] ? BAD : tied[state] >> k & 1);
+            }
+        }
+        due("takeBack() of a ninth", x.takeBack(), NO);
     }
 
     private static void takeBackWhat() {

@@ -470,6 +470,11 @@ public final class TownsBoundaries extends Answers {
         }
         due("lay() of the same TEXT", x.lay(), 1);
         sameWhole("as on a new object: ", busyLaid(text), laid(text));
+        TiedToTown fewer = laid("p1;".repeat(6) + "l2;" + EIGHT.substring(6));
+        fewer.wipe();
+        put(fewer, "p0;p1;" + knot(0, 1, 0, 0, 0));
+        due("lay() of fewer", fewer.lay(), 1);
+        sameWhole("nothing of what was LAID ahead of it: ", fewer, laid("p0;p1;" + knot(0, 1, 0, 0, 0)));
         TiedToTown y = laid(TWO + knot(0, 1, 0, 0, 0));
         put(y, knot(0, 1, 1, 0, 0));
         due("lay() of more", y.lay(), 2);
