@@ -49,7 +49,7 @@ abstract class Answers {
         }
     }
 
-    private static String document() {
+    static String document() {
         if (document == null) {
             document = plain(readDocument());
         }
@@ -65,7 +65,7 @@ abstract class Answers {
         }
     }
 
-    private static String plain(String s) {
+    static String plain(String s) {
         return s.replaceAll("\\s+", " ");
     }
 
